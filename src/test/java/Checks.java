@@ -10,22 +10,26 @@ final class Checks {
         Object answer();
     }
 
-    /** The answer as a text, a boolean as 1 or 0; what is thrown as throws.Name. */
+    /** The answer as a text; what is thrown as throws.Name. */
     static String outcome(Call call) {
         try {
-            Object answer = call.answer();
-            return answer instanceof Boolean ? ((Boolean) answer ? "1" : "0") : String.valueOf(answer);
+            return text(call.answer());
         } catch (RuntimeException e) {
             return "throws." + e.getClass().getSimpleName();
         }
     }
 
+    /** A boolean counts 1 or 0, as in the issues. */
+    private static String text(Object answer) {
+        return answer instanceof Boolean ? ((Boolean) answer ? "1" : "0") : String.valueOf(answer);
+    }
+
     static void due(String what, Object want, Call call) {
         String got = outcome(call);
         looked++;
-        if (!got.equals(String.valueOf(want))) {
+        if (!got.equals(text(want))) {
             wrong++;
-            System.out.println(what + " answered " + got + ", due is " + want);
+            System.out.println(what + " answered " + got + ", due is " + text(want));
         }
     }
 

@@ -30,7 +30,7 @@ public final class FaceTest {
 
     public static void main(String[] args) {
         Class<?> face = QuantifierOut.class;
-        Checks.due("public final", true, () -> face.getModifiers() == (Modifier.PUBLIC | Modifier.FINAL) ? "true" : "");
+        Checks.due("public final", true, () -> face.getModifiers() == (Modifier.PUBLIC | Modifier.FINAL));
         TreeSet<String> names = new TreeSet<>();
         TreeSet<String> shown = new TreeSet<>();
         for (Method method : face.getDeclaredMethods()) {
@@ -43,12 +43,12 @@ public final class FaceTest {
         for (Method method : face.getDeclaredMethods()) {
             if (Modifier.isPrivate(method.getModifiers())) {
                 Checks.due("private " + method.getName() + " bears a public name", false,
-                    () -> names.contains(method.getName()) ? "true" : "false");
+                    () -> names.contains(method.getName()));
             }
         }
         for (Field field : face.getDeclaredFields()) {
-            Checks.due("field " + field.getName() + " private", "true",
-                () -> "" + Modifier.isPrivate(field.getModifiers()));
+            Checks.due("field " + field.getName() + " private", true,
+                () -> Modifier.isPrivate(field.getModifiers()));
         }
         Constructor<?>[] makers = face.getDeclaredConstructors();
         Checks.due("constructors", "1 1 0", () ->

@@ -1,4 +1,4 @@
-/** Each promise of the document by hand: ordinary calls and the edges that it names. RefusalsTest has the wrong ones. */
+/** Each promise of the document by hand, in ordinary calls. The tests of boundaries have the edges and wrong calls. */
 public final class PromisesTest {
     private static final int X = 0;
     private static final int Y = 1;
@@ -39,27 +39,8 @@ public final class PromisesTest {
         Checks.due(promise + ": " + what, want, call);
     }
 
-    /** The SET as one writes it: [ and ] at an END that belongs to it, ( and ) at one that doesn't, - for none. */
     private void set(String what, String want, int p) {
-        due(what, want, () -> setText(p));
-    }
-
-    private String setText(int p) {
-        StringBuilder all = new StringBuilder();
-        int size = out.pieces(p);
-        for (int k = 0; k < size; k++) {
-            all.append(out.end(p, k, 0, 0) == 2 ? '[' : '(').append(endText(p, k, 0)).append(' ');
-            all.append(endText(p, k, 1)).append(out.end(p, k, 1, 0) == 2 ? ']' : ')');
-        }
-        return all.toString();
-    }
-
-    private String endText(int p, int k, int side) {
-        String fraction = out.end(p, k, side, 1) + "/" + out.end(p, k, side, 2);
-        if (out.end(p, k, side, 0) != 0) {
-            return fraction;
-        }
-        return fraction.equals("0/1") ? "-" : "none but " + fraction;
+        due(what, want, () -> Samples.set(out, p));
     }
 
     private static void newObject() {
