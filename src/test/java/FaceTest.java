@@ -34,7 +34,7 @@ public final class FaceTest {
         TreeSet<String> names = new TreeSet<>();
         TreeSet<String> shown = new TreeSet<>();
         for (Method method : face.getDeclaredMethods()) {
-            if (!Modifier.isPrivate(method.getModifiers())) {
+            if (!Modifier.isPrivate(method.getModifiers()) && !method.isSynthetic()) {
                 shown.add(describe(method));
                 names.add(method.getName());
             }

@@ -407,8 +407,8 @@ public final class PromisesBoundariesTest extends Samples {
     }
 
     private static void promise12Part0() {
-        Sentence s = promise(12, "part 0: whether there is no END (0), one that doesn't belong to it (1), one that does "
-            + "(2)");
+        Sentence s = promise(12, "part 0: whether there is no END (0), one that doesn't belong to it (1), one that "
+            + "does (2)");
         QuantifierOut out = new QuantifierOut();
         int below = out.some(Y, out.atom(1, 0, -2, BELOW));
         int from = out.some(Y, out.atom(-1, 0, 1, NOT_ABOVE));
